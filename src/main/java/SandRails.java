@@ -1651,7 +1651,7 @@ public final class SandRails {
         /** What is LEFT if one takes water at the cell first. */
         private final long[] taking = new long[CELLS];
         private int tank = 1;
-        private int goal = 0;
+        private int goal = NONE;
         /** With more water than this nothing is better. */
         private int enough = 0;
         private int cell = 0;
@@ -1700,13 +1700,12 @@ public final class SandRails {
         }
 
         private void solve(World world, int to) {
-            goal = to;
-            tank = Math.max(1, Math.min(MOST_TANK, world.storeOf(TANK)));
             cell = world.track.head();
-            water = Math.min(tank, world.storeOf(WATER));
+            water = world.storeOf(WATER);
+            if (isAsBefore(world, to)) {
+                return;
+            }
             for (int i = 0; i < CELLS; i++) {
-                costs[i] = world.isFree(i) ? minutesOn(world.desert.kindOf(i)) : 0;
-                isWet[i] = world.desert.isBesideWell(i);
                 taking[i] = NO_WAY;
             }
             for (int round = 0; round < MOST_ROUNDS; round++) {
@@ -1715,6 +1714,22 @@ public final class SandRails {
                     return;
                 }
             }
+        }
+
+        /** Sees to the goal, the tank and the ground; whether all that LEFT hangs on is as it was. */
+        private boolean isAsBefore(World world, int to) {
+            int most = Math.max(1, Math.min(MOST_TANK, world.storeOf(TANK)));
+            boolean isSame = goal == to && tank == most;
+            goal = to;
+            tank = most;
+            for (int i = 0; i < CELLS; i++) {
+                int cost = world.isFree(i) ? minutesOn(world.desert.kindOf(i)) : 0;
+                boolean isBesideWell = world.desert.isBesideWell(i);
+                isSame = isSame && costs[i] == cost && isWet[i] == isBesideWell;
+                costs[i] = cost;
+                isWet[i] = isBesideWell;
+            }
+            return isSame;
         }
 
         /** What is LEFT, by the water from none on, with the takings as they are known. */
