@@ -456,7 +456,7 @@ public final class SandRails {
         return kind == ROCK ? 3 : kind == DUNE ? 2 : 1;
     }
 
-    /** The minutes of a work, 4 men strong as it is told, for so much strength. */
+    /** The minutes of a work that is told for a strength of 4, rounded up. */
     private static int workMinutes(int work, int strength) {
         return strength > 0 ? (work * 4 + strength - 1) / strength : 0;
     }
@@ -1182,7 +1182,7 @@ public final class SandRails {
             }
         }
 
-        /** The operation at a place goes on, or back, to where the row ends now. */
+        /** The operation at a place leads to the one that comes next. */
         void leadHere(int place) {
             if (has(place)) {
                 firsts[place] = size;

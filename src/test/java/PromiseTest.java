@@ -178,6 +178,11 @@ public final class PromiseTest {
         wrong("   ", 3);
         wrong("g", 0);
         wrong("gogo", 0);
+        wrong("goz", 0);
+        wrong("go{", 2);
+        wrong("go`", 2);
+        wrong("rest 5:", 6);
+        wrong("rest /5", 5);
         wrong(" layeast", 1);
         wrong("Go", 0);
         wrong("go\t", 2);
@@ -225,6 +230,7 @@ public final class PromiseTest {
         wrong("while buried not buried (go)", 13);
         wrong("while", 5);
         right("rest1;rest 0001;rest1440");
+        right("go;".repeat(132) + "go  ");
         right("again1(go);again 99 ( go;lift )");
         right("if water<0(go)");
         right("while not buried and wood > 9999 or [plates<1and carried<1]or ahead>1 or behind>1 and hour<5 or day<0(go)");
@@ -379,6 +385,12 @@ public final class PromiseTest {
         u.store(7, 1);
         due("a train of one", u.set(50, 3, 1), 50);
         due("its front", u.count(3), 0);
+        CHECK.refused("a line of one is set out", STATE, () -> u.set(50, 3, 1));
+        CHECK.refused("its train is so long", STATE, () -> u.store(7, 1));
+        due("a rail to it", u.lay(1), 1);
+        due("and the train goes", u.go(false), true);
+        due("the tail is lifted", u.lift(), 0);
+        due("one is left", u.count(1), 1);
     }
 
     private static void promise13() {
@@ -536,6 +548,11 @@ public final class PromiseTest {
         s.store(2, 8);
         CHECK.refused("no water", STATE, () -> s.go(false));
         s.store(2, 30);
+        s.image();
+        s.store(2, 9);
+        due("just enough water", s.go(false), true);
+        due("none is left", s.count(6), 0);
+        s.back();
         due("go", s.go(false), true);
         due("water", s.count(6), 21);
         due("wood", s.count(5), 4);
@@ -638,7 +655,13 @@ public final class PromiseTest {
         due("dig", s.dig(), 11);
         due("minutes 100 by 12", s.count(0), 1449);
         due("sand", s.kind(11), 0);
+        s.task(0, 0);
+        s.task(1, 0);
+        s.task(2, 0);
+        s.gang(1, 1);
+        s.task(3, 3);
         due("dig", s.dig(), 12);
+        due("minutes 100 by 1", s.count(0), 1549);
         CHECK.refused("nothing more", STATE, s::dig);
     }
 
@@ -821,6 +844,10 @@ public final class PromiseTest {
         orders(v, "again 5(if hour < 3(rest 60));rest 1");
         due("again, too", v.run(0, 200), 4);
         due("so many exactly", v.run(0, 1), 1);
+        SandRails w = new SandRails();
+        orders(w, ("again1(".repeat(6) + "rest1" + ")".repeat(6) + ";").repeat(7) + "rest 9");
+        due("a long text", w.run(0, 200), 8);
+        due("to its end", w.count(0), 16);
     }
 
     // ---- 21 to 27
@@ -925,6 +952,13 @@ public final class PromiseTest {
         due("no way", u.route(99, NONE), NONE);
         due("no way", u.route(99, -2), NONE);
         due("no way", u.route(99, 0), NONE);
+        SandRails w = equipped(2);
+        w.set(2, 3, 2);
+        w.ground(11, 11, 3);
+        due("to cell 0", w.route(0, NONE), 12);
+        due("over cell 0", w.route(10, NONE), 24);
+        due("it is 0", w.route(10, 0), 0);
+        due("from cell 1 to 99", w.route(99, -2), 19);
     }
 
     private static void promise23Water() {
@@ -1129,6 +1163,16 @@ public final class PromiseTest {
         due("the oldest are gone", u.which(0, 0), NONE);
         due("the second is kept", u.which(1, 0), 1);
         due("walked in the log", u.look(0, 4), 4);
+        int clock = u.count(0);
+        due("a rail lies on the head", u.which(u.line(2, false), clock), u.line(2, true));
+        due("another lay there", u.which(u.line(2, false), clock - 1), NONE);
+        due("rounds", u.run(1, 200) + u.run(1, 200), 24);
+        due("100 are kept", u.count(11), 100);
+        due("of 20 rounds ago nothing is told", u.which(2, 0), NONE);
+        due("the last is told", u.which(u.line(2, false), u.count(0)), u.line(2, true));
+        due("the one ahead of it", u.which(u.line(1, false), u.count(0)), u.line(1, true));
+        due("a lifted one", u.which(11 + 12 + 1 + 2 - u.line(0, false) - u.line(1, false) - u.line(2, false),
+            u.count(0)), NONE);
     }
 
     private static void promise31() {
@@ -1180,6 +1224,17 @@ public final class PromiseTest {
             seed = 1103515245 * seed + 12345;
         }
         due("101 draws", v.store(8, 0), seed);
+        // The draw for a dune is below WIND, not at it.
+        int second = 1103515245 * (1103515245 * 9 + 12345) + 12345;
+        int drawn = (second >>> 16 & 0x7fff) % 100;
+        for (int wind = drawn; wind <= drawn + 1; wind++) {
+            SandRails x = new SandRails();
+            x.ground(55, 55, 2);
+            x.store(6, wind);
+            x.store(8, 9);
+            x.rest(1440);
+            due("wind " + wind + " by a draw of " + drawn, x.kind(55), wind > drawn ? 0 : 2);
+        }
         // A dune that moves on is not moved twice.
         SandRails w = new SandRails();
         w.ground(50, 50, 2);
