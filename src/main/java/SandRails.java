@@ -956,7 +956,7 @@ public final class SandRails {
                 case DIG: return tryDig();
                 default:
                     pass(number);
-                    return clock;
+                    return 0;
             }
         }
 
