@@ -1,4 +1,5 @@
 import java.util.ArrayList;
+import java.util.Collections;
 import java.util.List;
 import java.util.Random;
 import java.util.function.Supplier;
@@ -6,7 +7,11 @@ import java.util.function.Supplier;
 /** Random runs of calls, each answered by SandRails and by the Model; both must answer alike. */
 public final class ModelTest {
     private static final int RUNS = 500;
+    /** What an object answers behind so many calls is free. */
     private static final int CALLS = 512;
+    /** Calls that are left for the questions at the end of a run, and for the stores, which come last. */
+    private static final int AT_THE_END = 110;
+    private static final int STORES = 9;
     private static final String[] ACTS = {"lift", "go", "back", "fill", "dig", "go", "lift", "go"};
     private static final String[] WAYS = {"north", "east", "south", "west"};
     private static final String[] FACTS = {"water", "wood", "plates", "carried", "ahead", "behind", "hour", "day"};
@@ -20,6 +25,8 @@ public final class ModelTest {
     private final SandRails real = new SandRails();
     private final Model model = new Model();
     private final List<String> trace = new ArrayList<>();
+    private final List<Runnable> questions = new ArrayList<>();
+    private int made;
     private boolean failed;
     /** How rare wrong arguments are. */
     private final int strangeness;
@@ -49,16 +56,19 @@ public final class ModelTest {
     }
 
     private boolean perform() {
-        int calls = 50 + random.nextInt(CALLS - 50);
+        int calls = 50 + random.nextInt(CALLS - AT_THE_END - 50);
         if (random.nextInt(8) > 0) {
             prepare();
         }
-        for (int i = trace.size(); i < calls && !failed; i++) {
+        while (made < calls && !failed) {
             callAny();
         }
-        if (!failed) {
-            compareAll();
+        prepareQuestions();
+        Collections.shuffle(questions, random);
+        for (int i = 0; i < questions.size() && made < CALLS - STORES && !failed; i++) {
+            questions.get(i).run();
         }
+        compareStores();
         return !failed;
     }
 
@@ -71,9 +81,10 @@ public final class ModelTest {
     }
 
     private void call(String name, Supplier<Object> ofReal, Supplier<Object> ofModel) {
-        if (failed) {
+        if (failed || made == CALLS) {
             return;
         }
+        made++;
         String got = answer(ofReal);
         String due = answer(ofModel);
         trace.add(name + " -> " + got);
@@ -422,45 +433,52 @@ public final class ModelTest {
     }
 
     /** Everything that can be asked at the end of a run. */
-    private void compareAll() {
+    private void prepareQuestions() {
         for (int i = -1; i < 14; i++) {
             int n = i;
-            call("count " + n, () -> real.count(n), () -> model.count(n));
+            ask("count " + n, () -> real.count(n), () -> model.count(n));
         }
         for (int i = 0; i < 100; i++) {
             int n = i;
-            call("kind " + n, () -> real.kind(n), () -> model.kind(n));
-            call("which " + n, () -> real.which(n, model.s.clock), () -> model.which(n, model.s.clock));
-            call("which " + n, () -> real.which(n, model.s.clock / 2), () -> model.which(n, model.s.clock / 2));
+            ask("kind " + n, () -> real.kind(n), () -> model.kind(n));
+            ask("which " + n, () -> real.which(n, model.s.clock), () -> model.which(n, model.s.clock));
+            ask("which " + n, () -> real.which(n, model.s.clock / 2), () -> model.which(n, model.s.clock / 2));
         }
         for (int i = 0; i < 80; i++) {
             int rail = i / 5;
             int what = i % 5;
-            call("look " + rail + " " + what, () -> real.look(rail, what), () -> model.look(rail, what));
+            ask("look " + rail + " " + what, () -> real.look(rail, what), () -> model.look(rail, what));
         }
         for (int i = 0; i < 17; i++) {
             int n = i;
-            call("line " + n, () -> real.line(n, false), () -> model.line(n, false));
-            call("line " + n, () -> real.line(n, true), () -> model.line(n, true));
+            ask("line " + n, () -> real.line(n, false), () -> model.line(n, false));
+            ask("line " + n, () -> real.line(n, true), () -> model.line(n, true));
         }
         for (int i = 0; i < 5; i++) {
             int to = cell();
             for (int k = -2; k < 12; k++) {
                 int what = k;
-                call("route " + to + " " + what, () -> real.route(to, what), () -> model.route(to, what));
+                ask("route " + to + " " + what, () -> real.route(to, what), () -> model.route(to, what));
             }
             for (int k = 0; k < 240; k += 60) {
                 int minutes = k;
-                call("reach " + to + " " + minutes, () -> real.reach(to, minutes), () -> model.reach(to, minutes));
+                ask("reach " + to + " " + minutes, () -> real.reach(to, minutes), () -> model.reach(to, minutes));
             }
         }
-        call("worn", real::worn, model::worn);
-        call("few", real::few, model::few);
-        call("where", real::where, () -> model.s.where);
-        call("fault", real::fault, () -> model.fault);
-        call("joints", () -> real.joints(false), () -> model.joints(false));
-        call("joints", () -> real.joints(true), () -> model.joints(true));
-        for (int i = 0; i < 9; i++) {
+        ask("worn", real::worn, model::worn);
+        ask("few", real::few, model::few);
+        ask("where", real::where, () -> model.s.where);
+        ask("fault", real::fault, () -> model.fault);
+        ask("joints", () -> real.joints(false), () -> model.joints(false));
+        ask("joints", () -> real.joints(true), () -> model.joints(true));
+    }
+
+    private void ask(String name, Supplier<Object> ofReal, Supplier<Object> ofModel) {
+        questions.add(() -> call(name, ofReal, ofModel));
+    }
+
+    private void compareStores() {
+        for (int i = 0; i < STORES; i++) {
             int what = i;
             call("store " + what, () -> real.store(what, 1), () -> model.store(what, 1));
         }

@@ -1,18 +1,9 @@
-import java.util.NoSuchElementException;
-
 /** For each promise of the document ordinary inputs, edges and wrong inputs, with answers worked out by hand. */
-public final class PromiseTest {
-    private static final Class<IllegalArgumentException> ARGUMENT = IllegalArgumentException.class;
-    private static final Class<IllegalStateException> STATE = IllegalStateException.class;
-    private static final Class<IndexOutOfBoundsException> INDEX = IndexOutOfBoundsException.class;
-    private static final Class<UnsupportedOperationException> FULL = UnsupportedOperationException.class;
-    private static final Class<NoSuchElementException> NO_SUCH = NoSuchElementException.class;
-    private static final int NONE = SandRails.NONE;
-    private static final Check CHECK = new Check("PromiseTest");
-
+public final class PromiseTest extends Kit {
     private PromiseTest() { }
 
     public static void main(String[] args) {
+        begin("PromiseTest");
         promise1();
         promises2And3();
         promises4And5();
@@ -42,68 +33,7 @@ public final class PromiseTest {
         promise31();
         promises32And33();
         promise34();
-        CHECK.end();
-    }
-
-    private static void due(String what, Object got, Object want) {
-        CHECK.due(what, got, want);
-    }
-
-    // ---- helpers
-
-    private static void text(SandRails s, String text) {
-        for (int at = 0; at < text.length(); at += 20) {
-            int[] n = new int[5];
-            for (int i = 0; i < 20; i++) {
-                n[i / 4] = n[i / 4] << 8 | (at + i < text.length() ? text.charAt(at + i) : 0);
-            }
-            s.feed(n[0], n[1], n[2], n[3], n[4]);
-        }
-        s.end(text.length());
-    }
-
-    private static int orders(SandRails s, String text) {
-        text(s, text);
-        return s.orders();
-    }
-
-    /** The text is wrong at a byte. */
-    private static void wrong(String text, int at) {
-        SandRails s = new SandRails();
-        text(s, text);
-        CHECK.refused("orders \"" + text + "\"", ARGUMENT, s::orders);
-        due("fault of \"" + text + "\"", s.fault(), at);
-        due("the tape is used up", s.end(1), false);
-        CHECK.refused("no orders came of it", INDEX, () -> s.run(0, 1));
-    }
-
-    private static void right(String text) {
-        SandRails s = new SandRails();
-        text(s, text);
-        Object got;
-        try {
-            got = s.orders();
-        } catch (IllegalArgumentException e) {
-            got = "wrong at " + s.fault();
-        }
-        due("orders \"" + text + "\"", got, 0);
-        due("fault of \"" + text + "\"", s.fault(), NONE);
-    }
-
-    /** So many rails of width 0, gangs 0 lifting, 1 laying, 2 digging of strength 4 and a man each, full stores. */
-    private static SandRails equipped(int rails) {
-        SandRails s = new SandRails();
-        for (int i = 0; i < rails; i++) {
-            s.rail(0, 0);
-        }
-        for (int i = 0; i < 3; i++) {
-            s.gang(4, 1);
-            s.task(i, i + 1);
-        }
-        s.store(0, 100);
-        s.store(1, 100);
-        s.store(2, 30);
-        return s;
+        end();
     }
 
     // ---- 1 to 5
@@ -125,9 +55,9 @@ public final class PromiseTest {
         due("new worn", s.worn(), NONE);
         due("new few", s.few(), false);
         due("new back", s.back(), false);
-        CHECK.refused("new look", INDEX, () -> s.look(0, 0));
-        CHECK.refused("new task", INDEX, () -> s.task(0, 0));
-        CHECK.refused("new run", INDEX, () -> s.run(0, 1));
+        refused("new look", INDEX, () -> s.look(0, 0));
+        refused("new task", INDEX, () -> s.task(0, 0));
+        refused("new run", INDEX, () -> s.run(0, 1));
     }
 
     private static void promises2And3() {
@@ -149,7 +79,7 @@ public final class PromiseTest {
         // "go" in the two highest bytes of the first number, the third byte is above 127
         s.feed(0x676fe900, 0, 0, 0, 0);
         s.end(3);
-        CHECK.refused("a byte above 127", ARGUMENT, s::orders);
+        refused("a byte above 127", ARGUMENT, s::orders);
         due("it stands third", s.fault(), 2);
         s.feed(0x676f3b67, 0x6f000000, 0, 0, 0);
         s.end(5);
@@ -162,16 +92,16 @@ public final class PromiseTest {
         due("orders 0", orders(s, "go"), 0);
         due("orders 1", orders(s, " lift ; back;fill ;dig "), 1);
         text(s, "go go");
-        CHECK.refused("wrong text", ARGUMENT, s::orders);
+        refused("wrong text", ARGUMENT, s::orders);
         due("its byte", s.fault(), 3);
         due("orders 2", orders(s, "rest 1440"), 2);
         due("no fault", s.fault(), NONE);
         due("orders 3", orders(s, "lay north;lay east;lay south;lay west"), 3);
         text(s, "x");
-        CHECK.refused("wrong text beside four", ARGUMENT, s::orders);
+        refused("wrong text beside four", ARGUMENT, s::orders);
         due("its byte", s.fault(), 0);
         text(s, "go");
-        CHECK.refused("a fifth", FULL, s::orders);
+        refused("a fifth", FULL, s::orders);
         due("it was no wrong text", s.fault(), NONE);
         due("its tape is used up", s.end(1), false);
         wrong("", 0);
@@ -270,47 +200,47 @@ public final class PromiseTest {
         due("but of the line", s.ground(10, 3, 1), 5);
         due("the line's", s.kind(1), 0);
         due("beside the line", s.kind(3), 1);
-        CHECK.refused("from -1", INDEX, () -> s.ground(-1, 3, 1));
-        CHECK.refused("to 100", INDEX, () -> s.ground(3, 100, 9));
-        CHECK.refused("kind 4", ARGUMENT, () -> s.ground(3, 3, 4));
-        CHECK.refused("kind -1", ARGUMENT, () -> s.ground(3, 3, -1));
-        CHECK.refused("cell 100", INDEX, () -> s.kind(100));
-        CHECK.refused("cell -1", INDEX, () -> s.kind(-1));
+        refused("from -1", INDEX, () -> s.ground(-1, 3, 1));
+        refused("to 100", INDEX, () -> s.ground(3, 100, 9));
+        refused("kind 4", ARGUMENT, () -> s.ground(3, 3, 4));
+        refused("kind -1", ARGUMENT, () -> s.ground(3, 3, -1));
+        refused("cell 100", INDEX, () -> s.kind(100));
+        refused("cell -1", INDEX, () -> s.kind(-1));
     }
 
     private static void promises8To10() {
         SandRails s = new SandRails();
-        CHECK.refused("wear -1", ARGUMENT, () -> s.rail(-1, 0));
-        CHECK.refused("wear 100", ARGUMENT, () -> s.rail(100, 0));
-        CHECK.refused("width -10", ARGUMENT, () -> s.rail(0, -10));
-        CHECK.refused("width 10", ARGUMENT, () -> s.rail(0, 10));
+        refused("wear -1", ARGUMENT, () -> s.rail(-1, 0));
+        refused("wear 100", ARGUMENT, () -> s.rail(100, 0));
+        refused("width -10", ARGUMENT, () -> s.rail(0, -10));
+        refused("width 10", ARGUMENT, () -> s.rail(0, 10));
         for (int i = 0; i < 16; i++) {
             due("rail", s.rail(i == 0 ? 99 : 0, i == 0 ? -9 : 9), i);
         }
-        CHECK.refused("a 17th", FULL, () -> s.rail(0, 0));
-        CHECK.refused("a 17th that is wrong", ARGUMENT, () -> s.rail(0, 10));
+        refused("a 17th", FULL, () -> s.rail(0, 0));
+        refused("a 17th that is wrong", ARGUMENT, () -> s.rail(0, 10));
         due("carried", s.count(2), 16);
         due("wear", s.look(0, 0), 99);
         due("width", s.look(0, 1), -9);
         due("it is carried", s.look(0, 3), 1);
-        CHECK.refused("strength 0", ARGUMENT, () -> s.gang(0, 1));
-        CHECK.refused("strength 10", ARGUMENT, () -> s.gang(10, 1));
-        CHECK.refused("men 0", ARGUMENT, () -> s.gang(1, 0));
-        CHECK.refused("men 31", ARGUMENT, () -> s.gang(1, 31));
+        refused("strength 0", ARGUMENT, () -> s.gang(0, 1));
+        refused("strength 10", ARGUMENT, () -> s.gang(10, 1));
+        refused("men 0", ARGUMENT, () -> s.gang(1, 0));
+        refused("men 31", ARGUMENT, () -> s.gang(1, 31));
         for (int i = 0; i < 4; i++) {
             due("gang", s.gang(9, 30 - i), i);
         }
-        CHECK.refused("a fifth", FULL, () -> s.gang(1, 1));
-        CHECK.refused("a fifth that is wrong", ARGUMENT, () -> s.gang(1, 31));
+        refused("a fifth", FULL, () -> s.gang(1, 1));
+        refused("a fifth that is wrong", ARGUMENT, () -> s.gang(1, 31));
         due("men", s.count(10), 114);
         due("no task", s.task(3, 2), 0);
         due("task 2", s.task(3, 3), 2);
         due("task 3", s.task(3, 0), 3);
         due("task 0", s.task(3, 0), 0);
-        CHECK.refused("gang 4", INDEX, () -> s.task(4, 9));
-        CHECK.refused("gang -1", INDEX, () -> s.task(-1, 0));
-        CHECK.refused("task 4", ARGUMENT, () -> s.task(0, 4));
-        CHECK.refused("task -1", ARGUMENT, () -> s.task(0, -1));
+        refused("gang 4", INDEX, () -> s.task(4, 9));
+        refused("gang -1", INDEX, () -> s.task(-1, 0));
+        refused("task 4", ARGUMENT, () -> s.task(0, 4));
+        refused("task -1", ARGUMENT, () -> s.task(0, -1));
     }
 
     private static void promise11() {
@@ -322,8 +252,8 @@ public final class PromiseTest {
             s.store(what, most[what]);
             due("store " + what, s.store(what, least[what]), most[what]);
             due("store " + what, s.store(what, most[what]), least[what]);
-            CHECK.refused("store too little of " + what, ARGUMENT, () -> s.store(what, least[what] - 1));
-            CHECK.refused("store too much of " + what, ARGUMENT,
+            refused("store too little of " + what, ARGUMENT, () -> s.store(what, least[what] - 1));
+            refused("store too much of " + what, ARGUMENT,
                 () -> s.store(what, what == 2 ? 61 : most[what] + 1));
             s.store(3, 30);
         }
@@ -331,16 +261,16 @@ public final class PromiseTest {
         due("water that the least tank has left", s.store(2, 60), 1);
         due("tank", s.store(3, 59), 60);
         due("water no more than it", s.count(6), 59);
-        CHECK.refused("water above the tank", ARGUMENT, () -> s.store(2, 60));
+        refused("water above the tank", ARGUMENT, () -> s.store(2, 60));
         due("seed", s.store(8, Integer.MIN_VALUE), 1);
         due("seed", s.store(8, -7), Integer.MIN_VALUE);
         due("seed", s.store(8, Integer.MAX_VALUE), -7);
-        CHECK.refused("what 9", NO_SUCH, () -> s.store(9, -1));
-        CHECK.refused("what -1", NO_SUCH, () -> s.store(-1, 0));
+        refused("what 9", NO_SUCH, () -> s.store(9, -1));
+        refused("what -1", NO_SUCH, () -> s.store(-1, 0));
         s.store(7, 2);
         s.set(0, 1, 3);
-        CHECK.refused("length behind set", STATE, () -> s.store(7, 2));
-        CHECK.refused("wrong length behind set", ARGUMENT, () -> s.store(7, 5));
+        refused("length behind set", STATE, () -> s.store(7, 2));
+        refused("wrong length behind set", ARGUMENT, () -> s.store(7, 5));
     }
 
     // ---- 12 to 18
@@ -350,16 +280,16 @@ public final class PromiseTest {
         s.lose(1);
         s.ground(11, 13, 2);
         s.ground(15, 15, 3);
-        CHECK.refused("cell 100", INDEX, () -> s.set(100, 1, 0));
-        CHECK.refused("way 4", INDEX, () -> s.set(0, 4, 0));
-        CHECK.refused("way -1", INDEX, () -> s.set(0, -1, 2));
-        CHECK.refused("too few", ARGUMENT, () -> s.set(0, 1, 1));
-        CHECK.refused("more than carried", ARGUMENT, () -> s.set(0, 1, 5));
-        CHECK.refused("beyond", ARGUMENT, () -> s.set(10, 0, 3));
-        CHECK.refused("beyond west", ARGUMENT, () -> s.set(21, 3, 3));
-        CHECK.refused("beyond south", ARGUMENT, () -> s.set(81, 2, 3));
-        CHECK.refused("beyond east", ARGUMENT, () -> s.set(8, 1, 3));
-        CHECK.refused("a well", ARGUMENT, () -> s.set(35, 0, 3));
+        refused("cell 100", INDEX, () -> s.set(100, 1, 0));
+        refused("way 4", INDEX, () -> s.set(0, 4, 0));
+        refused("way -1", INDEX, () -> s.set(0, -1, 2));
+        refused("too few", ARGUMENT, () -> s.set(0, 1, 1));
+        refused("more than carried", ARGUMENT, () -> s.set(0, 1, 5));
+        refused("beyond", ARGUMENT, () -> s.set(10, 0, 3));
+        refused("beyond west", ARGUMENT, () -> s.set(21, 3, 3));
+        refused("beyond south", ARGUMENT, () -> s.set(81, 2, 3));
+        refused("beyond east", ARGUMENT, () -> s.set(8, 1, 3));
+        refused("a well", ARGUMENT, () -> s.set(35, 0, 3));
         s.rest(7);
         due("set", s.set(12, 1, 3), 14);
         due("its rails by numbers", s.line(0, true) * 100 + s.line(1, true) * 10 + s.line(2, true), 23);
@@ -374,19 +304,19 @@ public final class PromiseTest {
         due("in the minute", s.which(12, 7), 0);
         due("not ahead of it", s.which(12, 6), NONE);
         s.rail(0, 0);
-        CHECK.refused("again", STATE, () -> s.set(60, 1, 2));
-        CHECK.refused("again, wrong", ARGUMENT, () -> s.set(60, 1, 3));
+        refused("again", STATE, () -> s.set(60, 1, 2));
+        refused("again, wrong", ARGUMENT, () -> s.set(60, 1, 3));
         SandRails t = equipped(4);
         t.store(7, 4);
-        CHECK.refused("fewer than long", ARGUMENT, () -> t.set(99, 0, 3));
+        refused("fewer than long", ARGUMENT, () -> t.set(99, 0, 3));
         due("north", t.set(99, 0, 4), 69);
         due("front of four", t.count(3), 3);
         SandRails u = equipped(2);
         u.store(7, 1);
         due("a train of one", u.set(50, 3, 1), 50);
         due("its front", u.count(3), 0);
-        CHECK.refused("a line of one is set out", STATE, () -> u.set(50, 3, 1));
-        CHECK.refused("its train is so long", STATE, () -> u.store(7, 1));
+        refused("a line of one is set out", STATE, () -> u.set(50, 3, 1));
+        refused("its train is so long", STATE, () -> u.store(7, 1));
         due("a rail to it", u.lay(1), 1);
         due("and the train goes", u.go(false), true);
         due("the tail is lifted", u.lift(), 0);
@@ -395,12 +325,12 @@ public final class PromiseTest {
 
     private static void promise13() {
         SandRails s = equipped(4);
-        CHECK.refused("lift ahead of set", STATE, s::lift);
+        refused("lift ahead of set", STATE, s::lift);
         s.set(0, 1, 4);
-        CHECK.refused("lift under the train", STATE, s::lift);
+        refused("lift under the train", STATE, s::lift);
         s.go(false);
         s.task(0, 0);
-        CHECK.refused("none lifts", STATE, s::lift);
+        refused("none lifts", STATE, s::lift);
         s.task(0, 1);
         s.gang(9, 1);
         s.task(3, 1);
@@ -423,44 +353,26 @@ public final class PromiseTest {
         t.store(8, seedOfWay(0));
         t.rest(1438);
         due("the tail is buried", t.kind(0), 2);
-        CHECK.refused("lift a buried one", STATE, t::lift);
-    }
-
-    /** The least seed whose first draw modulo 4 is the way. */
-    private static int seedOfWay(int way) {
-        for (int seed = 1;; seed++) {
-            if (((1103515245 * seed + 12345) >>> 16 & 0x7fff) % 4 == way) {
-                return seed;
-            }
-        }
-    }
-
-    /** The least seed whose first draw modulo 3 is the number. */
-    private static int seedOfThree(int number) {
-        for (int seed = 1;; seed++) {
-            if (((1103515245 * seed + 12345) >>> 16 & 0x7fff) % 3 == number) {
-                return seed;
-            }
-        }
+        refused("lift a buried one", STATE, t::lift);
     }
 
     private static void promise14() {
         SandRails s = equipped(6);
-        CHECK.refused("lay ahead of set", STATE, () -> s.lay(1));
+        refused("lay ahead of set", STATE, () -> s.lay(1));
         s.set(1, 3, 2);
-        CHECK.refused("way 4", INDEX, () -> s.lay(4));
-        CHECK.refused("way -1", INDEX, () -> s.lay(-1));
-        CHECK.refused("beyond", STATE, () -> s.lay(0));
-        CHECK.refused("beyond west", STATE, () -> s.lay(3));
-        CHECK.refused("on the line", STATE, () -> s.lay(1));
+        refused("way 4", INDEX, () -> s.lay(4));
+        refused("way -1", INDEX, () -> s.lay(-1));
+        refused("beyond", STATE, () -> s.lay(0));
+        refused("beyond west", STATE, () -> s.lay(3));
+        refused("on the line", STATE, () -> s.lay(1));
         s.ground(10, 10, 3);
-        CHECK.refused("on a well", STATE, () -> s.lay(2));
+        refused("on a well", STATE, () -> s.lay(2));
         s.ground(10, 10, 1);
         s.store(0, 1);
-        CHECK.refused("a plate", STATE, () -> s.lay(2));
+        refused("a plate", STATE, () -> s.lay(2));
         s.store(0, 8);
         s.task(1, 0);
-        CHECK.refused("none lays", STATE, () -> s.lay(2));
+        refused("none lays", STATE, () -> s.lay(2));
         s.task(1, 2);
         s.store(8, seedOfThree(2));
         due("on rock", s.lay(2), 2);
@@ -488,7 +400,7 @@ public final class PromiseTest {
         due("log ahead of it", s.which(21, 74), NONE);
         due("the train stays", s.count(3), 1);
         s.lay(1);
-        CHECK.refused("none carried", STATE, () -> s.lay(1));
+        refused("none carried", STATE, () -> s.lay(1));
         for (int sign = -1; sign <= 1; sign += 2) {
             SandRails t = equipped(2);
             t.rail(0, 9 * sign);
@@ -530,23 +442,23 @@ public final class PromiseTest {
         t.ground(2, 2, 2);
         due("98 on a dune", t.lay(1), NONE);
         due("the dune stays", t.kind(2), 2);
-        CHECK.refused("none is carried", STATE, () -> t.lay(1));
+        refused("none is carried", STATE, () -> t.lay(1));
     }
 
     private static void promise15() {
         SandRails s = equipped(2);
         s.rail(0, 4);
         s.rail(0, 8);
-        CHECK.refused("go ahead of set", STATE, () -> s.go(false));
+        refused("go ahead of set", STATE, () -> s.go(false));
         s.store(7, 1);
         s.set(0, 1, 4);
-        CHECK.refused("no rail behind", STATE, () -> s.go(true));
+        refused("no rail behind", STATE, () -> s.go(true));
         s.store(1, 0);
-        CHECK.refused("no wood", STATE, () -> s.go(false));
+        refused("no wood", STATE, () -> s.go(false));
         s.store(1, 5);
         s.store(4, 9);
         s.store(2, 8);
-        CHECK.refused("no water", STATE, () -> s.go(false));
+        refused("no water", STATE, () -> s.go(false));
         s.store(2, 30);
         s.image();
         s.store(2, 9);
@@ -573,13 +485,13 @@ public final class PromiseTest {
         s.store(5, 18);
         due("back", s.go(true), true);
         due("front", s.count(3), 1);
-        CHECK.refused("no wood left", STATE, () -> s.go(true));
+        refused("no wood left", STATE, () -> s.go(true));
         SandRails t = equipped(3);
         t.set(0, 1, 3);
         due("go to the head", t.go(false), true);
-        CHECK.refused("beyond the head", STATE, () -> t.go(false));
+        refused("beyond the head", STATE, () -> t.go(false));
         due("back", t.go(true), true);
-        CHECK.refused("beyond the tail", STATE, () -> t.go(true));
+        refused("beyond the tail", STATE, () -> t.go(true));
         SandRails u = equipped(1);
         u.rail(0, 9);
         u.rail(0, 9);
@@ -600,10 +512,10 @@ public final class PromiseTest {
             due("buried " + at, s.kind(at), 2);
             due("one is", s.count(8), 1);
             if (at < 3) {
-                CHECK.refused("go, buried " + at, STATE, () -> s.go(false));
+                refused("go, buried " + at, STATE, () -> s.go(false));
             } else {
                 due("go, the third is no hindrance", s.go(false), true);
-                CHECK.refused("go further", STATE, () -> s.go(false));
+                refused("go further", STATE, () -> s.go(false));
                 due("back", s.go(true), true);
             }
         }
@@ -611,10 +523,10 @@ public final class PromiseTest {
 
     private static void promise16() {
         SandRails s = equipped(4);
-        CHECK.refused("fill ahead of set", STATE, s::fill);
+        refused("fill ahead of set", STATE, s::fill);
         s.set(0, 1, 4);
         s.ground(12, 13, 3);
-        CHECK.refused("no well beside", STATE, s::fill);
+        refused("no well beside", STATE, s::fill);
         s.ground(11, 11, 3);
         due("nothing came", s.fill(), 0);
         due("minutes all the same", s.count(0), 15);
@@ -629,26 +541,26 @@ public final class PromiseTest {
         s.ground(0, 99, 0);
         s.ground(10, 10, 3);
         s.go(false);
-        CHECK.refused("beside the tail alone", STATE, s::fill);
+        refused("beside the tail alone", STATE, s::fill);
         SandRails t = equipped(2);
         t.set(9, 2, 2);
         t.ground(10, 10, 3);
         t.ground(20, 20, 3);
-        CHECK.refused("not across the edge", STATE, t::fill);
+        refused("not across the edge", STATE, t::fill);
     }
 
     private static void promise17() {
         SandRails s = equipped(3);
-        CHECK.refused("dig ahead of set", STATE, s::dig);
+        refused("dig ahead of set", STATE, s::dig);
         s.set(10, 1, 3);
-        CHECK.refused("nothing is buried", STATE, s::dig);
+        refused("nothing is buried", STATE, s::dig);
         s.ground(21, 22, 2);
         s.store(6, 100);
         s.store(8, seedOfWay(0));
         s.rest(1440);
         due("two are", s.count(8), 2);
         s.task(2, 0);
-        CHECK.refused("none digs", STATE, s::dig);
+        refused("none digs", STATE, s::dig);
         s.task(0, 3);
         s.task(1, 3);
         s.task(2, 3);
@@ -662,14 +574,14 @@ public final class PromiseTest {
         s.task(3, 3);
         due("dig", s.dig(), 12);
         due("minutes 100 by 1", s.count(0), 1549);
-        CHECK.refused("nothing more", STATE, s::dig);
+        refused("nothing more", STATE, s::dig);
     }
 
     private static void promise18() {
         SandRails s = new SandRails();
-        CHECK.refused("rest 0", ARGUMENT, () -> s.rest(0));
-        CHECK.refused("rest 1441", ARGUMENT, () -> s.rest(1441));
-        CHECK.refused("rest -1", ARGUMENT, () -> s.rest(-1));
+        refused("rest 0", ARGUMENT, () -> s.rest(0));
+        refused("rest 1441", ARGUMENT, () -> s.rest(1441));
+        refused("rest -1", ARGUMENT, () -> s.rest(-1));
         due("rest 1", s.rest(1), 1);
         s.gang(1, 30);
         s.gang(1, 11);
@@ -711,14 +623,14 @@ public final class PromiseTest {
         due("where ahead of any", s.where(), NONE);
         orders(s, "rest 10;  lift;rest 20");
         orders(s, "rest 5");
-        CHECK.refused("orders 2", INDEX, () -> s.run(2, 0));
-        CHECK.refused("orders -1", INDEX, () -> s.run(-1, 1));
-        CHECK.refused("most 0", ARGUMENT, () -> s.run(0, 0));
-        CHECK.refused("most 201", ARGUMENT, () -> s.run(0, 201));
+        refused("orders 2", INDEX, () -> s.run(2, 0));
+        refused("orders -1", INDEX, () -> s.run(-1, 1));
+        refused("most 0", ARGUMENT, () -> s.run(0, 0));
+        refused("most 201", ARGUMENT, () -> s.run(0, 201));
         due("refused", s.run(0, 200), 1);
         due("at its byte", s.where(), 10);
         due("the first was done", s.count(0), 10);
-        CHECK.refused("most -1", ARGUMENT, () -> s.run(0, -1));
+        refused("most -1", ARGUMENT, () -> s.run(0, -1));
         due("a call that throws changes nothing", s.where(), 10);
         due("so many were done", s.run(0, 1), 1);
         due("none was refused", s.where(), NONE);
@@ -868,10 +780,10 @@ public final class PromiseTest {
         due("split", s.look(3, 3), 2);
         s.lose(4);
         due("lost", s.look(4, 3), 3);
-        CHECK.refused("rail 5", INDEX, () -> s.look(5, 9));
-        CHECK.refused("rail -1", INDEX, () -> s.look(-1, 0));
-        CHECK.refused("what 5", NO_SUCH, () -> s.look(0, 5));
-        CHECK.refused("what -1", NO_SUCH, () -> s.look(0, -1));
+        refused("rail 5", INDEX, () -> s.look(5, 9));
+        refused("rail -1", INDEX, () -> s.look(-1, 0));
+        refused("what 5", NO_SUCH, () -> s.look(0, 5));
+        refused("what -1", NO_SUCH, () -> s.look(0, -1));
         due("line", s.line(2, false), 21);
         due("its rail", s.line(2, true), 2);
         due("behind it", s.line(3, false), NONE);
@@ -893,17 +805,17 @@ public final class PromiseTest {
 
     private static void promise23() {
         SandRails s = equipped(4);
-        CHECK.refused("cell 100", INDEX, () -> s.route(100, -3));
-        CHECK.refused("not set out, wrong", ARGUMENT, () -> s.route(5, -3));
-        CHECK.refused("not set out", STATE, () -> s.route(5, 0));
+        refused("cell 100", INDEX, () -> s.route(100, -3));
+        refused("not set out, wrong", ARGUMENT, () -> s.route(5, -3));
+        refused("not set out", STATE, () -> s.route(5, 0));
         s.set(43, 1, 3);
-        CHECK.refused("cell -1", INDEX, () -> s.route(-1, 0));
-        CHECK.refused("of the line", ARGUMENT, () -> s.route(43, -1));
-        CHECK.refused("the head", ARGUMENT, () -> s.route(45, -1));
-        CHECK.refused("what -3", ARGUMENT, () -> s.route(5, -3));
-        CHECK.refused("what least", ARGUMENT, () -> s.route(5, Integer.MIN_VALUE));
+        refused("cell -1", INDEX, () -> s.route(-1, 0));
+        refused("of the line", ARGUMENT, () -> s.route(43, -1));
+        refused("the head", ARGUMENT, () -> s.route(45, -1));
+        refused("what -3", ARGUMENT, () -> s.route(5, -3));
+        refused("what least", ARGUMENT, () -> s.route(5, Integer.MIN_VALUE));
         s.ground(99, 99, 3);
-        CHECK.refused("a well", ARGUMENT, () -> s.route(99, -1));
+        refused("a well", ARGUMENT, () -> s.route(99, -1));
         due("beside", s.route(46, NONE), 12);
         due("one cell", s.route(46, -2), 1);
         due("it", s.route(46, 0), 46);
@@ -1034,15 +946,15 @@ public final class PromiseTest {
 
     private static void promise24() {
         SandRails s = equipped(2);
-        CHECK.refused("cell 100", INDEX, () -> s.reach(100, -1));
-        CHECK.refused("minutes -1", ARGUMENT, () -> s.reach(5, -1));
-        CHECK.refused("not set out", STATE, () -> s.reach(5, 1));
+        refused("cell 100", INDEX, () -> s.reach(100, -1));
+        refused("minutes -1", ARGUMENT, () -> s.reach(5, -1));
+        refused("not set out", STATE, () -> s.reach(5, 1));
         s.set(0, 1, 2);
         s.ground(4, 4, 3);
-        CHECK.refused("cell -1", INDEX, () -> s.reach(-1, 1));
-        CHECK.refused("a well", ARGUMENT, () -> s.reach(4, 1));
-        CHECK.refused("of the line", ARGUMENT, () -> s.reach(0, 1));
-        CHECK.refused("below 0", ARGUMENT, () -> s.reach(3, -1));
+        refused("cell -1", INDEX, () -> s.reach(-1, 1));
+        refused("a well", ARGUMENT, () -> s.reach(4, 1));
+        refused("of the line", ARGUMENT, () -> s.reach(0, 1));
+        refused("below 0", ARGUMENT, () -> s.reach(3, -1));
         due("none", s.reach(3, 0), 0);
         due("none", s.reach(3, 11), 0);
         due("one", s.reach(3, 12), 1);
@@ -1105,7 +1017,7 @@ public final class PromiseTest {
 
     private static void promises28And29() {
         SandRails s = equipped(3);
-        CHECK.refused("steal -1", ARGUMENT, () -> s.steal(-1));
+        refused("steal -1", ARGUMENT, () -> s.steal(-1));
         due("steal 0", s.steal(0), 0);
         due("steal", s.steal(40), 40);
         due("plates", s.count(4), 60);
@@ -1113,20 +1025,20 @@ public final class PromiseTest {
         due("no plates", s.count(4), 0);
         due("none", s.steal(1), 0);
         s.set(0, 1, 2);
-        CHECK.refused("rail 3", INDEX, () -> { s.lose(3); return 0; });
-        CHECK.refused("rail -1", INDEX, () -> { s.lose(-1); return 0; });
-        CHECK.refused("laid", STATE, () -> { s.lose(0); return 0; });
+        refused("rail 3", INDEX, () -> { s.lose(3); return 0; });
+        refused("rail -1", INDEX, () -> { s.lose(-1); return 0; });
+        refused("laid", STATE, () -> { s.lose(0); return 0; });
         s.lose(2);
         due("lost", s.look(2, 3), 3);
         due("carried", s.count(2), 0);
-        CHECK.refused("lost already", STATE, () -> { s.lose(2); return 0; });
+        refused("lost already", STATE, () -> { s.lose(2); return 0; });
         due("it is a rail of the sixteen", s.rail(0, 0), 3);
     }
 
     private static void promise30() {
         SandRails s = equipped(3);
-        CHECK.refused("cell 100", INDEX, () -> s.which(100, 0));
-        CHECK.refused("cell -1", INDEX, () -> s.which(-1, 0));
+        refused("cell 100", INDEX, () -> s.which(100, 0));
+        refused("cell -1", INDEX, () -> s.which(-1, 0));
         due("nothing lay", s.which(5, 99), NONE);
         s.set(0, 1, 3);
         s.go(false);
@@ -1177,8 +1089,8 @@ public final class PromiseTest {
 
     private static void promise31() {
         SandRails s = equipped(3);
-        CHECK.refused("nights -1", ARGUMENT, () -> s.ahead(-1, true));
-        CHECK.refused("nights 31", ARGUMENT, () -> s.ahead(31, false));
+        refused("nights -1", ARGUMENT, () -> s.ahead(-1, true));
+        refused("nights 31", ARGUMENT, () -> s.ahead(31, false));
         s.set(10, 1, 3);
         s.ground(0, 9, 2);
         s.ground(20, 99, 2);
@@ -1267,7 +1179,7 @@ public final class PromiseTest {
         s.rest(1440);
         s.rest(1440);
         text(s, "rest 7 (");
-        CHECK.refused("a wrong text", ARGUMENT, s::orders);
+        refused("a wrong text", ARGUMENT, s::orders);
         text(s, "rest 7");
         due("back", s.back(), true);
         due("fault stays", s.fault(), 7);
@@ -1284,8 +1196,8 @@ public final class PromiseTest {
         due("men", s.count(10), 3);
         due("log", s.count(11), 3);
         due("wear", s.look(0, 0), 0);
-        CHECK.refused("no rail 4", INDEX, () -> s.look(4, 0));
-        CHECK.refused("no orders 1", INDEX, () -> s.run(1, 1));
+        refused("no rail 4", INDEX, () -> s.look(4, 0));
+        refused("no orders 1", INDEX, () -> s.run(1, 1));
         due("the tape stays", s.orders(), 1);
         due("it is another text", s.run(1, 1) * 100 + s.count(0), 107);
         due("task", s.task(0, 1), 1);
