@@ -427,6 +427,13 @@ public final class EdgeOrdersTest extends Kit {
         wrong("again (go) x", 6);
         wrong("again 0 (go) x", 6);
         wrong("again 2 ; x", 8);
+        wrong("again ; x", 6);
+        wrong("if ; x", 3);
+        wrong("while ; x", 6);
+        wrong("again 1(again ) x", 14);
+        wrong("again 1(if ) x", 11);
+        wrong("again 1(while ) x", 14);
+        wrong("again 1(lay ) x", 12);
         wrong("go go x", 3);
         SandRails s = new SandRails();
         for (int i = 0; i < 4; i++) {

@@ -192,6 +192,44 @@ public final class EdgeRoutesTest extends Kit {
         SandRails w = headOn(1, EAST, 1);
         w.ground(12, 12, 3);
         due("nothing behind the last step", w.route(2, NONE), 12);
+        longestWay();
+    }
+
+    /** A way between wells that is as long as one can be: two cells of the line, then 62 steps. */
+    private static void longestWay() {
+        int[] way = {70, 80, 90, 91, 92, 93, 83, 73, 72, 62, 61, 51, 50, 40, 30, 20, 10, 0, 1, 2, 3, 4, 5, 15, 16, 17,
+            7, 8, 9, 19, 29, 28, 38, 48, 49, 59, 69, 79, 78, 77, 67, 57, 56, 46, 45, 35, 34, 24, 23, 22, 32, 42, 43, 53,
+            54, 64, 65, 75, 85, 86, 96, 97, 98, 99};
+        SandRails s = new SandRails();
+        s.rail(0, 0);
+        s.rail(0, 0);
+        s.ground(0, 99, 3);
+        for (int cell : way) {
+            s.ground(cell, cell, 0);
+        }
+        s.set(70, SOUTH, 2);
+        s.store(3, 60);
+        s.store(2, 60);
+        due("60 steps by 60 water", s.route(97, NONE), 720);
+        due("60 steps", s.route(97, -2), 60);
+        due("within 719", s.reach(97, 719), 59);
+        due("within 720", s.reach(97, 720), 60);
+        due("61 steps by 60 water", s.route(98, NONE), 61 * 12 + 15);
+        due("taken on the 60th cell", s.reach(98, 720), 60);
+        due("not yet the 61st", s.reach(98, 746), 60);
+        due("the 61st", s.reach(98, 747), 61);
+        due("62 steps", s.route(99, -2), 62);
+        for (int k = 0; k < 62; k++) {
+            due("cell " + k, s.route(99, k), way[k + 2]);
+        }
+        due("behind it", s.route(99, 62), NONE);
+        s.store(3, 59);
+        due("60 steps by 59 water", s.route(97, NONE), 735);
+        due("taken on the 59th cell", s.reach(97, 708), 59);
+        due("not yet the 60th", s.reach(97, 734), 59);
+        s.store(3, 1);
+        due("a tank of 1: to the corner", s.route(90, NONE), 12);
+        noRoute("which is beside no well", s, 91);
     }
 
     private static void routeLeft() {
