@@ -64,6 +64,9 @@ public final class FaceTest {
             int m = inner.getModifiers();
             check.due(inner + " is static", Modifier.isStatic(m), true);
             check.due(inner + " is hidden", Modifier.isPublic(m) || Modifier.isProtected(m), false);
+            for (Method own : inner.getDeclaredMethods()) {
+                check.due(own + " bears a public name", names.contains(own.getName()), false);
+            }
         }
         check.due("at most twelve classes", SandRails.class.getDeclaredClasses().length < 12, true);
         check.due("NONE", SandRails.NONE, -1);
